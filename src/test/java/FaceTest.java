@@ -1,0 +1,103 @@
+import java.lang.reflect.Constructor;
+import java.lang.reflect.Field;
+import java.lang.reflect.Method;
+import java.lang.reflect.Modifier;
+import java.util.Map;
+import java.util.TreeMap;
+import java.util.TreeSet;
+
+/** The public face of the document, and rules 1 and 5 of the language as far as the compiled class shows them. */
+public final class FaceTest {
+    private static final String[] FACE = {
+        "int add(int,int) IllegalArgumentException IllegalStateException",
+        "int branch(int,int,int) IndexOutOfBoundsException IllegalArgumentException IllegalStateException",
+        "int strip(int) IndexOutOfBoundsException",
+        "int delay(int,int,int) IndexOutOfBoundsException IllegalArgumentException",
+        "int press(int) IllegalArgumentException",
+        "int run(int) IllegalArgumentException",
+        "int settle() IllegalStateException",
+        "int reset()",
+        "int append(int) IllegalArgumentException IllegalStateException",
+        "int clearBuffer()",
+        "int firstError()",
+        "int draw() IllegalArgumentException",
+        "int undo() IllegalStateException",
+        "int relay(int,int) IndexOutOfBoundsException IllegalArgumentException",
+        "int contacts(int,int,int) IndexOutOfBoundsException IllegalArgumentException",
+        "int count(int) IllegalArgumentException",
+        "int leads(int,int) IllegalArgumentException",
+        "int race(int) IllegalArgumentException",
+        "int cure(int) IllegalArgumentException",
+        "int holding()",
+        "int idle(int) IndexOutOfBoundsException",
+        "double quietShare()",
+        "long digest()"};
+
+    public static void main(String[] args) {
+        Class<?> type = LadderRelays.class;
+        Check.due("public and final", Modifier.toString(type.getModifiers()), "public final");
+        Check.due("no package", type.getPackageName(), "");
+        methods(type);
+        fields(type);
+        Constructor<?>[] made = type.getDeclaredConstructors();
+        Check.due("constructors", made.length, 1);
+        Check.due("constructor", made[0].toString(), "public LadderRelays()");
+        for (Class<?> inside : type.getDeclaredClasses()) {
+            int m = inside.getModifiers();
+            Check.due(inside + " is static", Modifier.isStatic(m) ? 1 : 0, 1);
+            Check.due(inside + " is not seen", Modifier.isPublic(m) || Modifier.isProtected(m) ? 1 : 0, 0);
+            fieldsOfOwn(inside);
+        }
+        Check.end();
+    }
+
+    private static String told(Method m) {
+        StringBuilder s = new StringBuilder(m.getReturnType().getSimpleName()).append(' ').append(m.getName()).append('(');
+        for (Class<?> p : m.getParameterTypes()) {
+            s.append(s.charAt(s.length() - 1) == '(' ? "" : ",").append(p.getSimpleName());
+        }
+        s.append(')');
+        for (Class<?> e : m.getExceptionTypes()) {
+            s.append(' ').append(e.getSimpleName());
+        }
+        return s.toString();
+    }
+
+    private static void methods(Class<?> type) {
+        Map<String, String> open = new TreeMap<>();
+        TreeSet<String> hidden = new TreeSet<>();
+        for (Method m : type.getDeclaredMethods()) {
+            if (Modifier.isPrivate(m.getModifiers())) {
+                hidden.add(m.getName());
+            } else {
+                Check.due(m.getName(), Modifier.toString(m.getModifiers()), "public");
+                open.put(m.getName(), told(m));
+            }
+        }
+        Check.due("methods of the face", open.size(), FACE.length);
+        for (String line : FACE) {
+            String name = line.substring(line.indexOf(' ') + 1, line.indexOf('('));
+            Check.due(name, String.valueOf(open.get(name)), line);
+            Check.due("a private " + name, hidden.contains(name) ? 1 : 0, 0);
+        }
+    }
+
+    private static void fields(Class<?> type) {
+        for (Field f : type.getDeclaredFields()) {
+            if (!Modifier.isPrivate(f.getModifiers())) {
+                Check.due("a field that is seen", f.toString(), "public static final int LadderRelays.NONE");
+            }
+        }
+        fieldsOfOwn(type);
+    }
+
+    private static void fieldsOfOwn(Class<?> type) {
+        int own = 0;
+        for (Field f : type.getDeclaredFields()) {
+            int m = f.getModifiers();
+            own += Modifier.isStatic(m) ? 0 : 1;
+            Check.due(f + " is final if static", Modifier.isStatic(m) && !Modifier.isFinal(m) ? 1 : 0, 0);
+        }
+        Check.due(type + " has few fields", own <= 20 ? 1 : 0, 1);
+    }
+}
