@@ -281,7 +281,9 @@ public final class LadderRelays {
         for (int relay = 0; relay < now.relays; relay++) {
             hash = hashOfRelay(hash, relay);
         }
-        hash = hashOfForecasts(hash);
+        hash = hashOfLeads(hash);
+        hash = hashOfRace(hash);
+        hash = 31L * hash + holding();
         hash = 31L * hash + bitsOf(quietShare());
         hash = 31L * hash + length;
         for (int i = 0; i < length; i++) {
@@ -465,24 +467,19 @@ public final class LadderRelays {
         }
         findRace();
         Arrays.fill(cureAnswers, NONE);
-        boolean told = raceAnswers[0] != NONE;
-        boolean sound = raceAnswers[0] == 1 && raceAnswers[3] == 0;
-        if (told && !sound) {
-            searchCure();
-        }
         cureKnown = true;
-    }
-
-    private void searchCure() {
+        boolean sound = raceAnswers[0] == 1 && raceAnswers[3] == 0;
+        if (raceAnswers[0] == NONE || sound) {
+            return;
+        }
         trial.copyFrom(now);
         for (int amount = 1; amount <= LONGEST_TIME; amount++) {
             for (int relay = 0; relay < trial.relays; relay++) {
-                if (cures(trial.pull, relay, amount)) {
-                    answerCure(amount, relay, 0);
-                    return;
-                }
-                if (cures(trial.drop, relay, amount)) {
-                    answerCure(amount, relay, 1);
+                boolean pulling = cures(trial.pull, relay, amount);
+                if (pulling || cures(trial.drop, relay, amount)) {
+                    cureAnswers[0] = amount;
+                    cureAnswers[1] = relay;
+                    cureAnswers[2] = pulling ? 0 : 1;
                     return;
                 }
             }
@@ -501,12 +498,6 @@ public final class LadderRelays {
         return ways.told && ways.unlikeRests() == 1 && !ways.wheel;
     }
 
-    private void answerCure(int amount, int relay, int kind) {
-        cureAnswers[0] = amount;
-        cureAnswers[1] = relay;
-        cureAnswers[2] = kind;
-    }
-
     private long hashOfRelay(long start, int relay) {
         long hash = start;
         for (int what = 0; what < PROPERTIES; what++) {
@@ -520,13 +511,18 @@ public final class LadderRelays {
         return 31L * hash + now.idleBranch(relay);
     }
 
-    private long hashOfForecasts(long start) {
+    private long hashOfLeads(long start) {
         long hash = start;
         for (int i = 0; i < HASHED_INPUTS.length; i++) {
             for (int what = 0; what < LEAD_ANSWERS; what++) {
                 hash = 31L * hash + leadAnswer(HASHED_INPUTS[i], what);
             }
         }
+        return hash;
+    }
+
+    private long hashOfRace(long start) {
+        long hash = start;
         findRace();
         for (int what = 0; what < RACE_ANSWERS; what++) {
             hash = 31L * hash + raceAnswers[what];
@@ -535,7 +531,7 @@ public final class LadderRelays {
         for (int what = 0; what < CURE_ANSWERS; what++) {
             hash = 31L * hash + cureAnswers[what];
         }
-        return 31L * hash + holding();
+        return hash;
     }
 
     /** The bits of a share of 0 to 1, made by hand since Double is outside the part of Java kept to. */
@@ -645,7 +641,7 @@ public final class LadderRelays {
 
         /** The inputs that are on and the relays that are up, by the bits of contacts. */
         int signals() {
-            return inputs | (up() << INPUTS);
+            return inputs | (upIn(motion) << INPUTS);
         }
 
         /** The contacts of a branch that do not lead. */
@@ -657,21 +653,15 @@ public final class LadderRelays {
             return calledBy(signals());
         }
 
+        /** The relays with a branch none of whose contacts is against the signals. */
         int calledBy(int signals) {
             int mask = 0;
             for (int relay = 0; relay < relays; relay++) {
-                if (branchesThatLead(relay, signals) != 0) {
-                    mask |= 1 << relay;
-                }
-            }
-            return mask;
-        }
-
-        private int branchesThatLead(int relay, int signals) {
-            int mask = 0;
-            for (int branch = 0; branch < branches[relay]; branch++) {
-                if (contactsAgainst(placeOf(relay, branch), signals) == 0) {
-                    mask |= 1 << branch;
+                for (int branch = 0; branch < branches[relay]; branch++) {
+                    int place = relay * MOST_BRANCHES + branch;
+                    if ((closing[place] & ~signals) == 0 && (opening[place] & signals) == 0) {
+                        mask |= 1 << relay;
+                    }
                 }
             }
             return mask;
@@ -679,7 +669,7 @@ public final class LadderRelays {
 
         /** The relays that are not content. */
         int restless() {
-            return called() ^ up();
+            return calledBy(signals()) ^ up();
         }
 
         /** All counts as a tick makes them ahead of the changes. */
@@ -707,7 +697,7 @@ public final class LadderRelays {
         }
 
         private int timeIn(int motion, int relay) {
-            return isIn(motion, relay) ? drop[relay] : pull[relay];
+            return ((motion >> relay) & 1) == 1 ? drop[relay] : pull[relay];
         }
 
         /** The motion after the relays of the mask have changed. */
@@ -782,19 +772,50 @@ public final class LadderRelays {
 
         /** The lowest branch that leads alone by no signals at all; NONE if there is none. */
         int idleBranch(int relay) {
-            int leadsAlone = 0;
-            for (int signals = 0; signals < 1 << (INPUTS + relays); signals++) {
-                int leading = branchesThatLead(relay, signals);
-                if (Integer.bitCount(leading) == 1) {
-                    leadsAlone |= leading;
-                }
-            }
+            int alone = branchesLeadingAlone(relay);
             for (int branch = 0; branch < branches[relay]; branch++) {
-                if (!isIn(leadsAlone, branch)) {
+                if (!isIn(alone, branch)) {
                     return branch;
                 }
             }
             return NONE;
+        }
+
+        /** Goes through all signals that the relay's branches ask for, since the others do not matter. */
+        private int branchesLeadingAlone(int relay) {
+            int asked = contactsOf(relay);
+            int alone = 0;
+            int signals = 0;
+            for (int i = 0; i <= ALL_CONTACTS; i++) {
+                int leading = branchesThatLead(relay, signals);
+                if (Integer.bitCount(leading) == 1) {
+                    alone |= leading;
+                }
+                signals = (signals - asked) & asked;
+                if (signals == 0) {
+                    break;
+                }
+            }
+            return alone;
+        }
+
+        private int branchesThatLead(int relay, int signals) {
+            int mask = 0;
+            for (int branch = 0; branch < branches[relay]; branch++) {
+                if (contactsAgainst(placeOf(relay, branch), signals) == 0) {
+                    mask |= 1 << branch;
+                }
+            }
+            return mask;
+        }
+
+        private int contactsOf(int relay) {
+            int mask = 0;
+            for (int branch = 0; branch < branches[relay]; branch++) {
+                int place = placeOf(relay, branch);
+                mask |= closing[place] | opening[place];
+            }
+            return mask;
         }
     }
 
@@ -965,8 +986,10 @@ public final class LadderRelays {
         private final int[] met = new int[MOST_STATES];
         /** By the hash of a motion, 1 more than its number among those met; 0 where a slot is free. */
         private final int[] slots = new int[SLOTS];
+        /** How many outcomes the tick from a state has, and then the numbers of the states that they are. */
         private final int[] outcomes = new int[MOST_STATES];
         private final int[] outcome = new int[MOST_STATES * MOST_OUTCOMES];
+        /** How many ways come to a state, less those from states that are taken away. */
         private final int[] arrivals = new int[MOST_STATES];
         private final int[] freed = new int[MOST_STATES];
         /** Who is called, by who is up. */
@@ -983,7 +1006,7 @@ public final class LadderRelays {
             rests = 0L;
             states = 0;
             told = true;
-            find(ladder.motion);
+            meet(ladder.motion, slotOf(ladder.motion));
             for (int from = 0; told && from < states && from < MOST_STATES; from++) {
                 goOn(ladder, from);
             }
@@ -1018,44 +1041,43 @@ public final class LadderRelays {
             return called[up];
         }
 
+        /** Notes a way from one state to another, which is met now if it was not before. */
         private void goTo(int from, int motion) {
-            int to = find(motion);
-            if (to == NONE || outcomes[from] >= MOST_OUTCOMES) {
+            int slot = slotOf(motion);
+            if (slots[slot] == 0 && !meet(motion, slot)) {
                 return;
             }
-            outcome[from * MOST_OUTCOMES + outcomes[from]] = to;
-            outcomes[from]++;
+            if (outcomes[from] < MOST_OUTCOMES) {
+                outcome[from * MOST_OUTCOMES + outcomes[from]] = slots[slot] - 1;
+                outcomes[from]++;
+            }
         }
 
-        /** The number of a state, which is met now if it was not before; NONE if that would be one too many. */
-        private int find(int motion) {
+        /** The slot in which a state stands, or the free one in which it would stand. */
+        private int slotOf(int motion) {
             int slot = (motion * SPREAD) >>> (INT_BITS - SLOT_BITS);
-            for (int probes = 0; probes < SLOTS; probes++) {
-                if (slots[slot] == 0) {
-                    return meet(motion, slot);
-                }
-                int number = slots[slot] - 1;
-                if (met[number] == motion) {
-                    return number;
+            for (int probes = 0; probes < SLOTS && slots[slot] != 0; probes++) {
+                if (met[slots[slot] - 1] == motion) {
+                    return slot;
                 }
                 slot = (slot + 1) & (SLOTS - 1);
             }
-            return NONE;
+            return slot;
         }
 
-        private int meet(int motion, int slot) {
+        /** Puts a state among those met; false if it is one too many. */
+        private boolean meet(int motion, int slot) {
             if (states >= MOST_STATES) {
                 told = false;
-                return NONE;
+                return false;
             }
-            int number = states;
-            met[number] = motion;
+            met[states] = motion;
             states++;
             slots[slot] = states;
-            return number;
+            return true;
         }
 
-        /** Takes away, one after the other, states that no way comes to any more: what is left goes round. */
+        /** Takes away, one after the other, states that no way comes to any more; any left go round. */
         private boolean hasWheel() {
             countArrivals();
             int found = 0;

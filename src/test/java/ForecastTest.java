@@ -218,6 +218,11 @@ public final class ForecastTest {
         y.branch(1, 0, 48);
         races("buzzing too fast", y, 0, -1, -1, 1, 3);
         cured("buzzing too fast", y, 3, 1, 1);
+        y.delay(0, 8, 2);
+        cured("a slower relay 0", y, 9, 1, 1);
+        y.delay(0, 9, 2);
+        cured("a time of 10 there is not", y, -1, -1, -1);
+        y.delay(0, 2, 2);
         y.delay(1, 0, 2);
         races("it may drop or pull first", y, 1, 1, 1, 1, y.race(4));
         cured("it may drop or pull first", y, 1, 1, 1);
@@ -284,6 +289,8 @@ public final class ForecastTest {
         idles(-1);
         idles(-1, 1, 0);
         idles(-1, 0, 1);
+        idles(-1, 63, 0);
+        idles(-1, 0, 63);
         idles(0, 1, 0, 1, 0);
         idles(1, 1, 0, 3, 0);
         idles(0, 3, 0, 1, 0);

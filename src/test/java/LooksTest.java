@@ -5,6 +5,7 @@ public final class LooksTest {
 
     public static void main(String[] args) {
         relay();
+        ownContacts();
         ticksUntilDue();
         contacts();
         count();
@@ -50,6 +51,23 @@ public final class LooksTest {
         properties(x, 1, 1, 1, 0, 4, 2, 3, 1, 1, 0);
         x.run(1);
         properties(x, 0, 0, 0, 0, 0, 3, 1, 0, 2, 0);
+    }
+
+    private static void ownContacts() {
+        LadderRelays x = new LadderRelays();
+        x.add(0, 0);
+        x.add(0, 0);
+        x.branch(0, 32, 16);
+        x.branch(1, 16, 32);
+        Check.due("not an opening one, nor another relay's", x.relay(0, 6) + x.relay(1, 6), 0);
+        x.branch(1, 1, 0);
+        x.branch(1, 33, 0);
+        Check.due("in its third branch", x.relay(1, 6), 1);
+        x.strip(0);
+        x.branch(0, 16, 0);
+        Check.due("in its first branch", x.relay(0, 6), 1);
+        x.strip(0);
+        Check.due("stripped", x.relay(0, 6), 0);
     }
 
     private static void ticksUntilDue() {

@@ -2,6 +2,8 @@ import java.io.IOException;
 import java.nio.charset.StandardCharsets;
 import java.nio.file.Files;
 import java.nio.file.Path;
+import java.util.Map;
+import java.util.TreeMap;
 import java.util.regex.Matcher;
 import java.util.regex.Pattern;
 
@@ -39,14 +41,31 @@ public final class SourceTest {
     private static void methods(String code) {
         Pattern head = Pattern.compile("(?m)^( +)(?:private |public |static )*[\\w\\[\\]]+ (\\w+)\\(([^)]*)\\)[^;{]*\\{$");
         Matcher m = head.matcher(code);
-        int found = 0;
+        Map<String, String> bodies = new TreeMap<>();
         while (m.find()) {
-            found++;
             int end = code.indexOf("\n" + m.group(1) + "}", m.end());
             long lines = code.substring(m.start(), end).lines().count() + 1;
             Check.due(m.group(2) + " is short", lines <= 60 ? 1 : 0, 1);
+            bodies.put(m.group(2), code.substring(m.end(), end));
             Check.due(m.group(2) + " takes few", m.group(3).split(",").length <= 7 ? 1 : 0, 1);
         }
-        Check.due("methods found", found > 80 ? 1 : 0, 1);
+        Check.due("methods found", bodies.size() > 80 ? 1 : 0, 1);
+        for (String name : bodies.keySet()) {
+            Check.due(name + " does not call deep", depth(name, bodies, 1) <= 8 ? 1 : 0, 1);
+        }
+    }
+
+    /** How many calls stand open at once at the most, the library's among them; 99 for a recursion. */
+    private static int depth(String name, Map<String, String> bodies, int above) {
+        int deepest = 1;
+        if (above > 20) {
+            return 99;
+        }
+        Matcher m = Pattern.compile("\\b(\\w+)\\(").matcher(bodies.getOrDefault(name, ""));
+        while (m.find()) {
+            boolean call = !m.group(1).matches("if|for|while|switch|return");
+            deepest = Math.max(deepest, call ? 1 + depth(m.group(1), bodies, above + 1) : 1);
+        }
+        return deepest;
     }
 }
