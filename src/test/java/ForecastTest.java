@@ -16,6 +16,7 @@ public final class ForecastTest {
         cureRefusesLongerTimes();
         holding();
         idle();
+        idleOfAllContacts();
         quietShare();
         digestOfNewObject();
         digest();
@@ -274,6 +275,23 @@ public final class ForecastTest {
         Check.due("never quiet without inputs", y.holding(), 0);
     }
 
+    private static void idleOfAllContacts() {
+        LadderRelays x = new LadderRelays();
+        for (int i = 0; i < 6; i++) {
+            x.add(0, 0);
+        }
+        x.branch(3, 1023, 0);
+        Check.due("all closing", x.idle(3), -1);
+        x.branch(3, 0, 1023);
+        Check.due("and all opening", x.idle(3), -1);
+        x.branch(3, 512, 256);
+        x.branch(3, 768, 255);
+        Check.due("and others", x.idle(3), -1);
+        x.branch(2, 1023, 0);
+        x.branch(2, 512, 0);
+        Check.due("all closing, and one of them", x.idle(2), 0);
+    }
+
     private static void idles(int want, int... masks) {
         LadderRelays x = new LadderRelays();
         x.add(0, 0);
@@ -315,6 +333,10 @@ public final class ForecastTest {
             x.branch(all - 1, 1 << (all - 1) % 4, 0);
             Check.due("all content", Double.toString(x.quietShare()), "1.0");
         }
+        LadderRelays one = new LadderRelays();
+        one.add(0, 0);
+        one.branch(0, 0, 1);
+        Check.due("none of one", Double.toString(one.quietShare()), "0.0");
         x.press(0);
         Check.due("four of six", Double.toString(x.quietShare()), Double.toString(4.0 / 6.0));
         x.press(2);
