@@ -6,8 +6,14 @@ final class Check {
 
     private static int asked = 0;
     private static int wrong = 0;
+    /** What stands ahead of the answers that are told. */
+    private static String heading = "";
 
     private Check() {
+    }
+
+    static void under(String words) {
+        heading = words;
     }
 
     static void due(String what, long got, long want) {
@@ -42,7 +48,7 @@ final class Check {
     private static void report(String what, String got, String want) {
         wrong++;
         if (wrong <= 40) {
-            System.out.println(what + " answered " + got + ", due is " + want);
+            System.out.println(heading + what + " answered " + got + ", due is " + want);
         }
     }
 

@@ -47,6 +47,9 @@ public final class FaceTest {
             Check.due(inside + " is static", Modifier.isStatic(m) ? 1 : 0, 1);
             Check.due(inside + " is not seen", Modifier.isPublic(m) || Modifier.isProtected(m) ? 1 : 0, 0);
             fieldsOfOwn(inside);
+            for (Method method : inside.getDeclaredMethods()) {
+                Check.due(inside + " has a method of the face: " + method.getName(), isOfFace(method.getName()) ? 1 : 0, 0);
+            }
         }
         Check.end();
     }
@@ -80,6 +83,15 @@ public final class FaceTest {
             Check.due(name, String.valueOf(open.get(name)), line);
             Check.due("a private " + name, hidden.contains(name) ? 1 : 0, 0);
         }
+    }
+
+    private static boolean isOfFace(String name) {
+        for (String line : FACE) {
+            if (line.startsWith(name + "(", line.indexOf(' ') + 1)) {
+                return true;
+            }
+        }
+        return false;
     }
 
     private static void fields(Class<?> type) {

@@ -367,40 +367,13 @@ public final class ForecastTest {
         Check.due("with a buffer", x.digest(), 31 * (h + 1) + '~');
     }
 
-    /** The digest, as the document lists it, from what the object itself tells. */
-    private static long digestOf(LadderRelays x, String buffer) {
-        long h = 2843;
-        for (int what = 0; what <= 9; what++) {
-            h = hash(h, x.count(what));
-        }
-        for (int r = 0; r < x.count(0); r++) {
-            for (int what = 0; what <= 8; what++) {
-                h = hash(h, x.relay(r, what));
-            }
-            for (int b = 0; b < x.relay(r, 5); b++) {
-                h = hash(h, x.contacts(r, b, 0), x.contacts(r, b, 1), x.contacts(r, b, 2), x.contacts(r, b, 3));
-            }
-            h = hash(h, x.idle(r));
-        }
-        int[] inputs = {0, 1, 6, 15};
-        for (int mask : inputs) {
-            h = hash(h, x.leads(mask, 0), x.leads(mask, 1));
-        }
-        h = hash(h, x.race(0), x.race(1), x.race(2), x.race(3), x.race(4), x.cure(0), x.cure(1), x.cure(2));
-        h = hash(h, x.holding(), Double.doubleToLongBits(x.quietShare()), buffer.length());
-        for (char c : buffer.toCharArray()) {
-            h = hash(h, c);
-        }
-        return h;
-    }
-
     private static void digest() {
         LadderRelays x = two(0, 0);
         x.branch(0, 8, 4);
         Check.type(x, "0=a;!");
-        Check.due("digest of two", x.digest(), digestOf(x, "0=a;!"));
+        Check.due("digest of two", x.digest(), Digest.of(x, "0=a;!"));
         x.run(3);
-        Check.due("digest of two later", x.digest(), digestOf(x, "0=a;!"));
+        Check.due("digest of two later", x.digest(), Digest.of(x, "0=a;!"));
         // the bits of each share that there is
         for (int all = 1; all <= 6; all++) {
             for (int called = 0; called <= all; called++) {
@@ -411,7 +384,7 @@ public final class ForecastTest {
                 for (int i = 0; i < called; i++) {
                     y.branch(i, 0, 1);
                 }
-                Check.due("digest with " + called + " of " + all, y.digest(), digestOf(y, ""));
+                Check.due("digest with " + called + " of " + all, y.digest(), Digest.of(y, ""));
             }
         }
     }

@@ -22,46 +22,17 @@ public final class UndoTest {
         void take(LadderRelays x);
     }
 
-    /** All that is told but for how many states are saved. */
-    private static String told(LadderRelays x) {
-        StringBuilder s = new StringBuilder();
-        for (int what = 0; what <= 8; what++) {
-            s.append(x.count(what)).append(' ');
-        }
-        for (int r = 0; r < x.count(0); r++) {
-            for (int what = 0; what <= 8; what++) {
-                s.append(x.relay(r, what)).append(' ');
-            }
-            for (int b = 0; b < x.relay(r, 5); b++) {
-                for (int what = 0; what <= 3; what++) {
-                    s.append(x.contacts(r, b, what)).append(' ');
-                }
-            }
-            s.append(x.idle(r)).append(' ');
-        }
-        for (int inputs = 0; inputs < 16; inputs++) {
-            s.append(x.leads(inputs, 0)).append(' ').append(x.leads(inputs, 1)).append(' ');
-        }
-        for (int what = 0; what < 5; what++) {
-            s.append(x.race(what)).append(' ');
-        }
-        for (int what = 0; what < 3; what++) {
-            s.append(x.cure(what)).append(' ');
-        }
-        return s.append(x.holding()).append(' ').append(x.quietShare()).toString();
-    }
-
     private static void eachUndoableCall() {
         Step[] steps = {x -> x.add(9, 9), x -> x.branch(1, 2, 16), x -> x.strip(0), x -> x.strip(1),
             x -> x.delay(0, 5, 6), x -> x.delay(0, 1, 1), x -> x.press(2), x -> x.press(0), x -> x.run(99),
             x -> x.settle(), x -> x.reset(), x -> draws(x, "0=b+c;u1:7;v1:8", 3), x -> draws(x, "4=a", 0)};
         for (int i = 0; i < steps.length; i++) {
             LadderRelays x = started();
-            String before = told(x);
+            String before = Told.ofLadder(x);
             steps[i].take(x);
             Check.due("saved by step " + i, x.count(9), 6);
             Check.due("undo of step " + i, x.undo(), 5);
-            Check.due("as before step " + i, told(x), before);
+            Check.due("as before step " + i, Told.ofLadder(x), before);
             Check.due("saved then", x.count(9), 5);
         }
     }
@@ -77,18 +48,18 @@ public final class UndoTest {
         x.add(0, 0);
         String[] states = new String[20];
         for (int i = 0; i < 20; i++) {
-            states[i] = told(x);
+            states[i] = Told.ofLadder(x);
             x.delay(0, i % 10, i / 10);
             Check.due("saved", x.count(9), Math.min(6, i + 2));
         }
         for (int i = 19; i >= 14; i--) {
             Check.due("undo", x.undo(), i - 14);
-            Check.due("the state ahead of delay " + i, told(x), states[i]);
+            Check.due("the state ahead of delay " + i, Told.ofLadder(x), states[i]);
         }
         Check.refuses(x, "undo beyond the oldest", IllegalStateException.class, () -> x.undo());
         x.press(1);
         Check.due("one is saved again", x.undo(), 0);
-        Check.due("as before", told(x), states[14]);
+        Check.due("as before", Told.ofLadder(x), states[14]);
     }
 
     private static void allIsRestored() {
@@ -122,7 +93,7 @@ public final class UndoTest {
         x.append('0');
         x.firstError();
         x.clearBuffer();
-        told(x);
+        Told.ofLadder(x);
         x.digest();
         Check.due("saved", x.count(9), 4);
         // an undo is not undone
