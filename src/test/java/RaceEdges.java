@@ -105,9 +105,9 @@ final class RaceEdges {
             Edge.due("twenty states", Edge.ladder("99 !0").race(4), 20);
             Edge.due("a round that starts later", Edge.pressed(1, "90 a", "00 0!1").race(3), 1);
             Edge.due("a round that can be left", Edge.pressed(1, TWO).race(3), 1);
-            // six are due: relay 4 buzzes if relay 5 alone is first, and otherwise all come to rest
+            // six are due: if relay 5 alone is first, again and again, no other one ever pulls and holds itself
             raced("a round by the last of seven outcomes", Edge.pressed(1, "00 a!5 0", "00 a!5 1", "00 a!5 2", "00 a!5 3",
-                "00 a!5 5!0!1!2!3!4", "00 a!0!1!2!3!4 5"), 2, 31, 47, 1);
+                "00 a!5 4", "00 a!0!1!2!3!4!5"), 1, 31, 31, 1);
         });
     }
 
