@@ -841,6 +841,8 @@ public final class LadderRelays {
         int owner;
         int time;
         int branches;
+        /** The number of the branch that is read; it is only set behind a test, so it can stand as an index. */
+        private int current;
         final int[] closing = new int[MOST_BRANCHES];
         final int[] opening = new int[MOST_BRANCHES];
 
@@ -920,9 +922,10 @@ public final class LadderRelays {
             if (sign != '!' && contactOf(sign) == 0) {
                 return false;
             }
-            closing[branches] = 0;
-            opening[branches] = 0;
+            current = branches;
             branches++;
+            closing[current] = 0;
+            opening[current] = 0;
             return takeNot(sign) || takeContact(sign, closing);
         }
 
@@ -952,13 +955,13 @@ public final class LadderRelays {
             if (contact == 0 || (contactsOfBranch() & contact) != 0) {
                 return false;
             }
-            masks[branches - 1] |= contact;
+            masks[current] |= contact;
             next = MORE_CONTACTS;
             return true;
         }
 
         private int contactsOfBranch() {
-            return closing[branches - 1] | opening[branches - 1];
+            return closing[current] | opening[current];
         }
 
         private static int contactOf(int sign) {
@@ -1092,7 +1095,7 @@ public final class LadderRelays {
                 for (int k = 0; k < outcomes[from]; k++) {
                     int to = outcome[from * MOST_OUTCOMES + k];
                     arrivals[to]--;
-                    if (arrivals[to] == 0) {
+                    if (arrivals[to] == 0 && found < MOST_STATES) {
                         freed[found] = to;
                         found++;
                     }

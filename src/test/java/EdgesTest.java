@@ -1,6 +1,7 @@
-/** Each sentence of the document that names a boundary, promise by promise; no sentence is left without a test. */
+/** Each sentence of the document, promise by promise; none is left without a test. */
 public final class EdgesTest {
     public static void main(String[] args) {
+        FaceEdges.all();
         LadderEdges.all();
         RunningEdges.all();
         TextEdges.all();
@@ -9,9 +10,8 @@ public final class EdgesTest {
         LeadsEdges.all();
         RaceEdges.all();
         ShareEdges.all();
-        // these name no boundary, and no answer
-        Sentences.allTested("Sluggish relays drawn as ladders", "All numbers are integers", "Inputs, relays, rungs",
-            "Ahead of the calls", "Returns the property.", "Returns the number");
+        // a heading, that says nothing by itself
+        Sentences.allTested("Inputs, relays, rungs");
         Check.end();
     }
 }

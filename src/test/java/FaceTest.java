@@ -1,7 +1,11 @@
+import java.io.IOException;
 import java.lang.reflect.Constructor;
 import java.lang.reflect.Field;
 import java.lang.reflect.Method;
 import java.lang.reflect.Modifier;
+import java.nio.charset.StandardCharsets;
+import java.nio.file.Files;
+import java.nio.file.Path;
 import java.util.Map;
 import java.util.TreeMap;
 import java.util.TreeSet;
@@ -33,10 +37,14 @@ public final class FaceTest {
         "double quietShare()",
         "long digest()"};
 
-    public static void main(String[] args) {
+    private static final Path DOCUMENT = Path.of("../shared/DOC.md");
+    private static final Path PROGRAM = Path.of("src/main/java/LadderRelays.java");
+
+    public static void main(String[] args) throws IOException {
         Class<?> type = LadderRelays.class;
         Check.due("public and final", Modifier.toString(type.getModifiers()), "public final");
         Check.due("no package", type.getPackageName(), "");
+        linesOfTheDocument();
         methods(type);
         fields(type);
         Constructor<?>[] made = type.getDeclaredConstructors();
@@ -52,6 +60,26 @@ public final class FaceTest {
             }
         }
         Check.end();
+    }
+
+    /** Each line of the document's face must be a head in the program, the names of arguments and the throws too. */
+    private static void linesOfTheDocument() throws IOException {
+        if (!Files.exists(DOCUMENT)) {
+            System.out.println("there is no " + DOCUMENT + ": the face is not compared with it");
+            return;
+        }
+        String program = Files.readString(PROGRAM, StandardCharsets.ISO_8859_1).replaceAll("\\s+", " ");
+        String document = Files.readString(DOCUMENT, StandardCharsets.ISO_8859_1);
+        String face = document.substring(document.indexOf("```java\n") + 8, document.indexOf("\n```\n"));
+        int heads = 0;
+        for (String line : face.split("\n")) {
+            String head = line.trim().replaceAll("\\);$|(Exception);$", line.contains("Exception") ? "$1 {" : ") {");
+            if (!head.equals("}")) {
+                heads++;
+                Check.due("the program has the head " + head, program.contains(head) ? 1 : 0, 1);
+            }
+        }
+        Check.due("heads of the document", heads, FACE.length + 3);
     }
 
     private static String told(Method m) {

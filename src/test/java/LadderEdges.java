@@ -391,6 +391,14 @@ final class LadderEdges {
             Edge.due("branches of relay 2", x.relay(2, 5), 4);
             Edge.due("contacts of relay 2", x.contacts(2, 3, 0), 8);
             Edge.refused("a look at a branch", Edge.INDEX, LadderEdges::stripped, y -> y.contacts(0, 0, 0));
+            // the count stays until a tick goes by
+            LadderRelays z = Edge.pressed(1, "99 a");
+            z.run(6);
+            z.strip(0);
+            Edge.due("its count", z.relay(0, 2), 6);
+            z.branch(0, 1, 0);
+            Edge.due("its count with another branch", z.relay(0, 2), 6);
+            Edge.due("it goes on from there", z.settle(), 4);
         });
         Edge.test(4, "Returns how many it had.", () -> {
             String[] rungs = {"00", "00 a", "00 a b", "00 a b c", "00 a b c d"};

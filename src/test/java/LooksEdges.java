@@ -8,6 +8,7 @@ final class LooksEdges {
 
     static void all() {
         relayRefuses();
+        eachProperty();
         upAndCalled();
         counts();
         timesAndBranches();
@@ -16,7 +17,9 @@ final class LooksEdges {
         ticksUntilDue();
         contactsRefuse();
         contacts();
+        eachOfBranches();
         countRefuses();
+        eachCount();
         countsOfRelays();
         countsOfBranches();
         countsSoFar();
@@ -46,6 +49,28 @@ final class LooksEdges {
             properties(x, 0, 1, 1, 0, 1, 2, 1, 0, 1, 0);
             properties(x, 1, 1, 0, 0, 3, 4, 2, 0, 1, 5);
             properties(x, 2, 0, 0, 0, 5, 6, 0, 0, 0, 0);
+        });
+    }
+
+    private static void eachProperty() {
+        Edge.test(15, "Returns the property.", () -> {
+            LadderRelays x = Edge.ladder("38 a a b 0!d", "00 0 !d");
+            properties(x, 0, 0, 0, 0, 3, 8, 4, 1, 0, 0);
+            properties(x, 1, 0, 1, 0, 0, 0, 2, 0, 0, 1);
+            x.press(3);
+            for (int round = 0; round < 2; round++) {
+                x.press(0);
+                Edge.due("round " + round + ": ticks until it is up, and the other one", x.settle(), 5);
+                x.press(0);
+                x.settle();
+            }
+            x.press(0);
+            x.settle();
+            x.press(0);
+            x.run(2);
+            // up, not called, at the count 2, changed five times, and due in seven ticks
+            properties(x, 0, 1, 0, 2, 3, 8, 4, 1, 5, 7);
+            properties(x, 1, 1, 1, 0, 0, 0, 2, 0, 5, 0);
         });
     }
 
@@ -263,6 +288,36 @@ final class LooksEdges {
             Edge.due("four are on, of ten opening", x.contacts(0, 2, 3), 4);
             Edge.due("four are on, of both kinds", x.contacts(0, 3, 3), 5);
             Edge.due("none of one", x.contacts(5, 0, 3), 0);
+        });
+    }
+
+    private static void eachOfBranches() {
+        Edge.test(16, "Returns the number.", () -> {
+            LadderRelays x = Edge.pressed(3, "00 a0!b!c", "00 abd01", "00 ab!d!2");
+            int[][] want = {{17, 6, 0, 2}, {59, 0, 0, 3}, {3, 72, 1, 0}};
+            for (int relay = 0; relay < 3; relay++) {
+                for (int what = 0; what < 4; what++) {
+                    Edge.due("branch of " + relay + ", what " + what, x.contacts(relay, 0, what), want[relay][what]);
+                }
+            }
+        });
+    }
+
+    private static void eachCount() {
+        Edge.test(17, "Returns the number.", () -> {
+            LadderRelays x = Edge.pressed(13, "00 ac", "00 d b a!0", "92 c", "00 !a", "00");
+            x.run(4);
+            x.undo();
+            x.run(7);
+            x.undo();
+            x.run(3);
+            x.undo();
+            // relay 1 sees relay 0 down, and up, but is called by d as well
+            x.run(4);
+            int[] want = {5, 3, 7, 1, 13, 6, 8, 4, 2, 6};
+            for (int what = 0; what <= 9; what++) {
+                Edge.due("what " + what, x.count(what), want[what]);
+            }
         });
     }
 

@@ -127,7 +127,9 @@ final class RaceEdges {
                 Edge.due("later on it is told", states > 0 && states <= 300 ? 1 : 0, 1);
                 Edge.due("one rest", x.race(0), 1);
             });
-        Edge.test(19, "NONE if it is not told.", () -> {
+        Edge.test(19, "Returns the number; NONE if it is not told.", () -> {
+            raced("told", Edge.ladder("00", "00 1 !2", "00 !a"), 2, 4, 6, 0, 4);
+            raced("told, with a wheel", Edge.pressed(1, "00 !0 !1", "00 a!0"), 1, 1, 1, 1, 6);
             raced("301", Edge.pressed(1, STATES_301), -1, -1, -1, -1, -1);
             raced("many", Edge.pressed(1, "11 !0", "22 !1", "33 !2", "44 !3", "55 !4", "66 !5"), -1, -1, -1, -1, -1);
             Edge.changesNothing("a look at it", Edge.NONE, () -> Edge.pressed(1, STATES_301), x -> x.race(3));
@@ -189,6 +191,24 @@ final class RaceEdges {
             Edge.range("what", Edge.ARGUMENT, 0, 2, () -> Edge.pressed(1, TWO), LadderRelays::cure);
             Edge.range("what, no cure", Edge.ARGUMENT, 0, 2, LadderRelays::new, LadderRelays::cure);
             Edge.range("what, not told", Edge.ARGUMENT, 0, 2, () -> Edge.pressed(1, STATES_301), LadderRelays::cure);
+        });
+        Edge.test(20, "Returns the number, of the first change of one time", () -> {
+            LadderRelays x = buzzed(7);
+            // in whatever order they are asked for
+            Edge.due("which time", x.cure(2), 1);
+            Edge.due("by how much", x.cure(0), 8);
+            Edge.due("the relay", x.cure(1), 5);
+            x.delay(5, 0, 8);
+            notCured("with the change that is told", x);
+            x.delay(5, 0, 7);
+            cured("with one tick less", x, 1, 5, 1);
+            // from the present counts on: relay 1 is called one tick ahead of relay 0, and both are due at once
+            LadderRelays y = Edge.pressed(1, "40 ab!1", "50 a!0");
+            notCured("relay 1 alone is called", y);
+            y.run(1);
+            y.press(1);
+            Edge.due("rests", y.race(0), 2);
+            cured("with a count", y, 1, 0, 0);
         });
         Edge.test(20, "Finds the least cure.", () -> {
             Edge.changesNothing("a look at it", 1, () -> Edge.pressed(1, TWO), x -> x.cure(0));

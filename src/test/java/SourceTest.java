@@ -34,6 +34,7 @@ public final class SourceTest {
         int classes = code.split("\\bclass\\b", -1).length - 1;
         Check.due("few classes", classes <= 12 ? 1 : 0, 1);
         methods(code);
+        objects(code);
         Check.end();
     }
 
@@ -53,6 +54,21 @@ public final class SourceTest {
         for (String name : bodies.keySet()) {
             Check.due(name + " does not call deep", depth(name, bodies, 1) <= 8 ? 1 : 0, 1);
         }
+    }
+
+    /** Objects are made by fields and by the constructor, so that no call makes one but the exception that it throws. */
+    private static void objects(String code) {
+        int start = code.indexOf("    public LadderRelays() {");
+        String others = code.substring(0, start) + code.substring(code.indexOf("\n    }\n", start));
+        Matcher m = Pattern.compile("(?m)^.*\\bnew\\b.*$|^.*[\\w\\])] = \\{.*$|^.*\\bclone\\b.*$|^.*copyOf\\w*\\(.*$").matcher(others);
+        int made = 0;
+        while (m.find()) {
+            String line = m.group().trim();
+            boolean right = line.startsWith("throw new ") || line.matches("(private )?(static )?final .*");
+            made++;
+            Check.due("an object is made by " + line, right ? 1 : 0, 1);
+        }
+        Check.due("lines that make objects found", made > 30 ? 1 : 0, 1);
     }
 
     /** How many calls stand open at once at the most, the library's among them; 99 for a recursion. */

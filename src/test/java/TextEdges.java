@@ -318,6 +318,23 @@ final class TextEdges {
                 Edge.due("the fourth", x.contacts(0, 3, 0), 8);
                 Edge.refused("a look at a fifth", Edge.INDEX, () -> fullyDrawn(), y -> y.contacts(0, 4, 0));
             });
+        Edge.test(13, "a rung takes the place of all branches of its relay, a time that of the one that it has.", () -> {
+            // who is up and the counts stay
+            for (String order : new String[] {"0=a", "u0:1", "v0:1", "1=a", "u1:8", "v1:8"}) {
+                LadderRelays x = Edge.pressed(1, "09 a", "90 b");
+                x.run(1);
+                Edge.press(x, 3);
+                x.run(5);
+                Check.type(x, order);
+                x.draw();
+                Edge.due(order + ": who is up", x.count(1), 1);
+                Edge.due(order + ": count of 0", x.relay(0, 2), 5);
+                Edge.due(order + ": count of 1", x.relay(1, 2), 5);
+                Edge.due(order + ": ticks", x.count(7), 6);
+                Edge.due(order + ": changes", x.count(8), 1);
+                Edge.due(order + ": inputs", x.count(4), 2);
+            }
+        });
         Edge.test(13, "Returns how many are done.", () -> {
             Edge.due("none", typedFor(0, "0=a").draw(), 0);
             Edge.due("one", typedFor(1, "0=a").draw(), 1);

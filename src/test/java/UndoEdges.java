@@ -159,7 +159,7 @@ final class UndoEdges {
         });
     }
 
-    private static LadderRelays busy() {
+    static LadderRelays busy() {
         LadderRelays x = Edge.pressed(1, "00 !0", "92 a", "31 a!0 1 2 b");
         x.run(7);
         return Edge.typed(x, "0=a;0=");
