@@ -156,7 +156,45 @@ final class RaceEdges {
             raced("undone", x, 1, 3, 3, 0, 4);
             x.run(1);
             raced("both are up", x, 1, 3, 3, 0, 1);
+            looksAfterOthers();
         });
+    }
+
+    /** What one object looked at before must leave nothing behind: it tells what a new one tells. */
+    private static void looksAfterOthers() {
+        String[][] ladders = {SIX_CALLED, {"00 a!1", "00 a!0", "00", "00", "00", "00"}, STATES_300,
+            {"00 !0", "90 a", "00", "00", "00", "00"}, {"40 a", "40 a", "60 a", "00 2", "00", "00"},
+            {"57 !1", "88 a!2", "59 a0", "01 !0!3", "00", "00"}, {"90 a", "00 0!1", "00", "00", "00", "00"},
+            {"00 a", "00 0", "00 1", "00 2", "00 3", "00 4"}, {"00 a!1!2", "00 a!0!2", "00 a!0!1", "00", "00", "00"}};
+        LadderRelays x = Edge.pressed(1, "00", "00", "00", "00", "00", "00");
+        for (int first = 0; first < ladders.length; first++) {
+            for (int second = 0; second < ladders.length; second++) {
+                told(x, ladders[first]);
+                String fresh = told(Edge.pressed(1, "00", "00", "00", "00", "00", "00"), ladders[second]);
+                Check.due("ladder " + second + " behind ladder " + first, told(x, ladders[second]), fresh);
+            }
+        }
+    }
+
+    /** Draws the ladder on an object of six relays, and tells its races and its cure. */
+    private static String told(LadderRelays x, String... relays) {
+        x.reset();
+        for (int i = 0; i < 6; i++) {
+            String[] parts = relays[i].split(" ", 2);
+            x.strip(i);
+            x.delay(i, parts[0].charAt(0) - '0', parts[0].charAt(1) - '0');
+            if (parts.length > 1) {
+                Edge.due("orders", Edge.typed(x, i + "=" + parts[1].replace(' ', '+')).draw(), 1);
+            }
+        }
+        StringBuilder s = new StringBuilder();
+        for (int what = 0; what < 5; what++) {
+            s.append(x.race(what)).append(' ');
+        }
+        for (int what = 0; what < 3; what++) {
+            s.append(x.cure(what)).append(' ');
+        }
+        return s.toString();
     }
 
     private static void races() {
